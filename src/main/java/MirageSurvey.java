@@ -592,12 +592,8 @@ public final class MirageSurvey {
         return Math.max(0, Math.min(PLACES - 1, place));
     }
 
-    /** Answers 1 or -1 for the way from a place to another one, 0 if there is none to go. */
     private static int wayTo(int from, int to) {
-        if (from == to) {
-            return 0;
-        }
-        return from < to ? 1 : -1;
+        return from <= to ? 1 : -1;
     }
 
     private void needStake(int stake) throws IndexOutOfBoundsException {
@@ -773,7 +769,7 @@ public final class MirageSurvey {
             return heatNow() * farFrom(stake, post) / 50;
         }
 
-        /** Answers 1 or -1 for where the mirage moves the stake, or 0 at the place of the post. */
+        /** Answers 1 or -1 for the way in which the mirage moves the stake. */
         int bendingWay(int stake, int post) {
             int away = wayTo(posts.get(post), stakes.get(stake));
             return hour % DAY < NOON ? away : -away;

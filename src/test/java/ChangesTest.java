@@ -42,6 +42,7 @@ public final class ChangesTest {
         Check.is("stake(0)", x.stake(0), 0);
         Check.is("stake(99)", x.stake(99), 1);
         Check.refused(x, "stake(99) again", 4, 1, () -> x.stake(99));
+        Check.refused(x, "stake(0) again", 4, 0, () -> x.stake(0));
         for (int number = 2; number < 10; number++) {
             Check.is("stake " + number, x.stake(number * 10), number);
         }
@@ -130,8 +131,10 @@ public final class ChangesTest {
         x.heat(1);
         x.hours(11);
         Check.is("49 / 10 is rounded down to 4, no shimmer", x.sight(0, 0, 0), 70);
+        x.hours(1);
+        Check.refused(x, "sight of what shimmers by a little", 5, 1, () -> x.sight(0, 0, 0));
         x.heat(9);
-        Check.refused(x, "sight of what shimmers", 5, 15, () -> x.sight(0, 0, 0));
+        Check.refused(x, "sight of what shimmers", 5, 17, () -> x.sight(0, 0, 0));
         Check.is("still drawn", x.drawnAt(0, 0), 70);
         Check.is("sightings", x.account(14), 1);
     }

@@ -16,6 +16,7 @@ public final class TextsTest {
         promise31Reason();
         promise31CommandIndex();
         promise32Line();
+        promise32EdgesOfTheFlat();
         promise32LongLine();
         promise33Character();
         Check.end();
@@ -52,6 +53,12 @@ public final class TextsTest {
         Check.is("sighted", x.drawnAt(1, 1), 40);
         Check.is("erase", Check.commands(x, "e1/1"), 1);
         Check.is("erased", x.account(7), 0);
+        Check.is("sight from post 1", Check.commands(x, "s0@1>0;s0@1>1;s1@0>0"), 3);
+        Check.is("erase on sheet 1", Check.commands(x, "e0/1"), 1);
+        Check.is("erased there", Check.line(x, 0) + Check.line(x, 1), "0@20 1@40blank");
+        x.undo();
+        x.undo();
+        Check.is("none is drawn", x.account(7) + x.account(14), 1);
         Check.is("bell with one digit", Check.commands(x, "b9"), 1);
         Check.is("too far", x.camelOf(0, 0), 44);
         Check.is("bell with two digits", Check.commands(x, "b40"), 1);
@@ -93,6 +100,12 @@ public final class TextsTest {
         Check.reason(x, "w00", 1, 0, 0);
         Check.is("s9", Check.commands(x, "s9@9>9"), "UnsupportedOperationException");
         Check.reason(x, "s9", 3, 9, 0);
+        Check.is("s0@5", Check.commands(x, "w1;s0@5>1"), "UnsupportedOperationException");
+        Check.reason(x, "s0@5", 3, 5, 1);
+        Check.is("s0@1>2", Check.commands(x, "s0@1>2"), "UnsupportedOperationException");
+        Check.reason(x, "s0@1>2", 3, 2, 0);
+        Check.is("e1/0", Check.commands(x, "e1/0"), "UnsupportedOperationException");
+        Check.reason(x, "e1/0", 6, 1, 0);
     }
 
     private static void promise29OneChange() {
@@ -247,6 +260,20 @@ public final class TextsTest {
         x.hours(18);
         x.sight(3, 0, 1);
         Check.is("nearer", Check.line(x, 1), "1@40 3@88-2");
+    }
+
+    private static void promise32EdgesOfTheFlat() {
+        MirageSurvey x = new MirageSurvey();
+        x.sheet();
+        x.post(50, 1);
+        for (int place : new int[] {0, 9, 10, 99}) {
+            x.sight(x.stake(place), 0, 0);
+        }
+        Check.is("drawn at 0", x.drawnAt(0, 0), 0);
+        Check.is("four are drawn", x.account(7), 4);
+        Check.is("line", Check.line(x, 0), "0@0 1@9 2@10 3@99");
+        Check.is("erase at 0", x.erase(0, 0), 0);
+        Check.is("line", Check.line(x, 0), "1@9 2@10 3@99");
     }
 
     /** As long as a line can be: what does not shimmer is bent by 3 at most. */
