@@ -17,6 +17,7 @@ public final class EdgesTest {
         promise14LostInThem();
         promise17Cups();
         promise19AfterRedrawing();
+        promises19And32TenStakes();
         promise23OneAfterTheOther();
         promise24EachHour();
         promise26EachHour();
@@ -230,6 +231,33 @@ public final class EdgesTest {
         Check.is("the other one is erased", x.wrongBy(0), 0);
         x.undo();
         Check.is("it is back", x.wrongBy(0), 3);
+    }
+
+    /** With as many stakes as there can be, a sheet ends at its own last stake, not at the next sheet's first one. */
+    private static void promises19And32TenStakes() {
+        MirageSurvey x = new MirageSurvey();
+        for (int stake = 0; stake < 10; stake++) {
+            x.stake(40 + stake);
+        }
+        x.post(65, 9);
+        x.sheet();
+        x.sheet();
+        x.sheet();
+        x.hours(3);
+        for (int sheet = 1; sheet < 3; sheet++) {
+            x.sight(0, 0, sheet);
+            x.sight(9, 0, sheet);
+        }
+        int[] wrong = {0, 1, 1};
+        String[] lines = {"blank", "0@39-1 9@49", "0@39-1 9@49"};
+        for (int sheet = 0; sheet < 3; sheet++) {
+            Check.is("by how much sheet " + sheet + " is wrong", x.wrongBy(sheet), wrong[sheet]);
+            Check.is("the line of sheet " + sheet, Check.line(x, sheet), lines[sheet]);
+        }
+        Check.is("erased on sheet 1", x.erase(0, 1), 39);
+        Check.is("by how much sheet 1 is wrong then", x.wrongBy(1), 0);
+        Check.is("the line of sheet 1 then", Check.line(x, 1), "9@49");
+        Check.is("drawn", x.account(7), 3);
     }
 
     private static int best(int[][] posts) {

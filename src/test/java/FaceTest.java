@@ -5,7 +5,7 @@ import java.lang.reflect.Modifier;
 import java.util.Set;
 import java.util.TreeSet;
 
-/** The public face is the document's and nothing else. */
+/** The public face is the document's and nothing else; the classes inside are as LANGUAGE.md wants them. */
 public final class FaceTest {
     private static final String[] FACE = {
         "int stake(int)", "int post(int,int)", "int sheet()", "int heat(int)", "int sight(int,int,int)",
@@ -41,7 +41,37 @@ public final class FaceTest {
         Constructor<?>[] constructors = MirageSurvey.class.getDeclaredConstructors();
         Check.is("constructors", constructors.length, 1);
         Check.is("constructor", constructors[0].toString(), "public MirageSurvey()");
+        classesInside(names);
         Check.end();
+    }
+
+    /** LANGUAGE.md, rules 1, 2, 5 and 11, of the class itself and of those inside it. */
+    private static void classesInside(Set<String> names) {
+        Class<?>[] inside = MirageSurvey.class.getDeclaredClasses();
+        Check.is("at most twelve classes", inside.length + 1 <= 12, true);
+        fieldsOf(MirageSurvey.class);
+        for (Class<?> one : inside) {
+            String name = one.getSimpleName();
+            int kind = one.getModifiers();
+            Check.is(name + " is static", Modifier.isStatic(kind), true);
+            Check.is(name + " is private or package-visible", Modifier.isPublic(kind) || Modifier.isProtected(kind), false);
+            Check.is(name + " holds no class", one.getDeclaredClasses().length, 0);
+            fieldsOf(one);
+            for (Method method : one.getDeclaredMethods()) {
+                boolean isHidden = Modifier.isPrivate(method.getModifiers()) && names.contains(method.getName());
+                Check.is(name + "." + method.getName() + " is private and bears a public name", isHidden, false);
+            }
+        }
+    }
+
+    private static void fieldsOf(Class<?> one) {
+        int count = 0;
+        for (Field field : one.getDeclaredFields()) {
+            boolean isStatic = Modifier.isStatic(field.getModifiers());
+            count += isStatic ? 0 : 1;
+            Check.is(field + " is final if it is static", !isStatic || Modifier.isFinal(field.getModifiers()), true);
+        }
+        Check.is(one.getSimpleName() + " has at most twenty fields beside its constants", count <= 20, true);
     }
 
     private static String signature(Method method) {
